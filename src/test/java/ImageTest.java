@@ -3,6 +3,7 @@ public final class ImageTest {
     public static void main(String[] args) {
         rows();
         image();
+        imageThen();
         counts();
         Due.finish();
     }
@@ -143,6 +144,45 @@ public final class ImageTest {
         Due.yes("back", x.back());
         Due.same("fault stays", x.fault(), 4);
         Due.same("the tape stays", x.feed(0, 0, 0, 0, 0), 40);
+    }
+
+    /** Of what the image keeps, what shows only in what happens then. */
+    private static void imageThen() {
+        TeaNight x = new TeaNight();
+        Due.job(x, "set 20=old 21", 1);
+        Due.job(x, "set 22=1", 9, 0, 0, 4, false);
+        x.old(21, 5);
+        x.minutes(6);
+        x.image();
+        x.old(21, 6);
+        x.minutes(4);
+        x.shorter(1, 1, 0, 0);
+        x.again(1);
+        x.way(1, 1);
+        x.minutes(1);
+        x.again(0);
+        x.minutes(1);
+        Due.same("old", x.word(20), 6);
+        Due.yes("back", x.back());
+        Due.same("left", x.look(1, 1), 4);
+        x.out(1);
+        Due.same("kept at 4 of the 9 with which it began", x.look(1, 1), 5);
+        Due.no("its short way is gone", x.again(1) || x.way(1, 1));
+        x.again(0);
+        x.minutes(7);
+        Due.same("old is back", x.word(20), 5);
+        // a job that came behind the image leaves nothing in its place
+        Due.job(x, "set 23=1", 1, 7, 1, 0, true);
+        x.shorter(2, 3, 4, 5);
+        x.way(2, 2);
+        x.minutes(1);
+        x.back();
+        Due.job(x, "", 1);
+        int[] want = {0, 0, 0, 0, 0, -1, 0, 0, 0, 2};
+        for (int what = 0; what < 10; what++) {
+            Due.same("look " + what, x.look(2, what), want[what]);
+        }
+        Due.no("no short way", x.way(2, 1));
     }
 
     private static void compare(int[] got, int[] want) {

@@ -38,14 +38,24 @@ public final class ModelTest {
 
     private static void texts(int many) {
         ModelTest t = new ModelTest(99);
-        for (int i = 0; i < many && wrong < 3; i++) {
-            String text = t.text();
-            int want = new Grammar(text).fault();
-            int got = Due.fault(text);
-            if (got != want) {
-                wrong++;
-                System.out.println("fault of \"" + text + "\" answered " + got + ", due is " + want);
+        String[] whole = {"repeat 3 set 16=2*word 1-old 2+day*", "sum 16 from 1 to 5;;", "round 16 by 5 ;x", "ask if not(1<2 or 2>weather) and 1<3)",
+            "stop if 1<2*3", "set 20=1+2 ; ask if ((not 1<2)) ; stop if day>0 or not old 5<0-3 stop"};
+        for (String text : whole) {
+            for (int i = 0; i <= text.length(); i++) {
+                sameFault(text.substring(0, i));
             }
+        }
+        for (int i = 0; i < many && wrong < 3; i++) {
+            sameFault(t.text());
+        }
+    }
+
+    private static void sameFault(String text) {
+        int want = new Grammar(text).fault();
+        int got = Due.fault(text);
+        if (got != want) {
+            wrong++;
+            System.out.println("fault of \"" + text + "\" answered " + got + ", due is " + want);
         }
     }
 

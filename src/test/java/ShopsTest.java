@@ -7,6 +7,7 @@ public final class ShopsTest {
         wrong();
         ovens();
         vans();
+        everyWay();
         cost();
         Due.finish();
     }
@@ -161,6 +162,27 @@ public final class ShopsTest {
         x.tell(1, -5);
         Due.same("below 0 counts 0", x.fill(true), 40);
         Due.same("not the ovens", x.fill(false), 11);
+    }
+
+    /** Loads of 1, 2, 4 and 8, and rooms that only one way fills. */
+    private static void everyWay() {
+        TeaNight x = new TeaNight();
+        for (int shop = 0; shop < 4; shop++) {
+            x.ring(shop, shop, 1 << shop);
+        }
+        for (int way = 0; way < 81; way++) {
+            int[] room = new int[3];
+            for (int shop = 0, digits = way; shop < 4; shop++, digits /= 3) {
+                room[digits % 3] += 1 << shop;
+            }
+            x.fleet(room[0], room[1], room[2], 0, 0);
+            Due.same("way " + way, x.fill(true), 0);
+            if (room[way % 3] > 0) {
+                room[way % 3]--;
+                x.fleet(room[0], room[1], room[2], 0, 0);
+                Due.same("one too little in way " + way, x.fill(true), 1);
+            }
+        }
     }
 
     private static void cost() {

@@ -188,5 +188,14 @@ public final class WordsTest {
         Due.same("the bounds are fine", x.look(4, 0), 2);
         Due.same("failed", x.count(8), 4);
         Due.same("a job that failed is done", x.look(0, 6), 1);
+        // what a repeat carried when it flooded is gone
+        TeaNight y = new TeaNight();
+        Due.job(y, "repeat 9 set 20=1000*word 20+7", 1);
+        Due.job(y, "set 21=word 20;stop if word 20>0", 1);
+        y.way(1, 2);
+        y.minutes(3);
+        Due.same("floods at its 4th time", y.look(0, 0), 6);
+        Due.same("the word is as it was", y.word(21), 0);
+        Due.same("the word is as it was", y.look(1, 0), 4);
     }
 }
