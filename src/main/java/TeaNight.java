@@ -32,6 +32,8 @@ public final class TeaNight {
     private static final int FED = 20;
     private static final int LINES = 10;
     private static final int DEEPEST = 6;
+    // at each depth an or and an and may be open, and what leads to the next one
+    private static final int OPEN = 3 * DEEPEST + 2;
     private static final int DIGITS = 6;
     private static final int MOST_NUMBER = 999999;
     // a byte of text never takes more than three numbers of code
@@ -54,24 +56,29 @@ public final class TeaNight {
     private static final int BY_HAND = 2;
     private static final int LEFT_OUT = 3;
 
-    private static final int SET = 0;
-    private static final int TOTAL = 1;
-    private static final int ROUND = 2;
-    private static final int ASK = 3;
-    private static final int STOP = 4;
-
-    private static final int PLAIN = 0;
-    private static final int OF_WORD = 1;
-    private static final int OF_OLD = 2;
-    private static final int OF_DAY = 3;
-    private static final int OF_WEATHER = 4;
-
-    private static final int OVER = 0;
-    private static final int LESS = 1;
-    private static final int MORE = 2;
-    private static final int NOT = 3;
-    private static final int AND = 4;
-    private static final int OR = 5;
+    // the kinds of things in a text, and what its code says: a sign is its byte, a word comes by its place among the known
+    private static final int END = -1;
+    private static final int NUMBER = -2;
+    private static final int NO_THING = -3;
+    private static final String KNOWN =
+            "repeat set sum from to round by ask stop if or and not word old day weather ";
+    private static final int REPEAT = 256;
+    private static final int SET = 257;
+    private static final int SUM = 258;
+    private static final int FROM = 259;
+    private static final int TO = 260;
+    private static final int ROUND = 261;
+    private static final int BY = 262;
+    private static final int ASK = 263;
+    private static final int STOP = 264;
+    private static final int IF = 265;
+    private static final int OR = 266;
+    private static final int AND = 267;
+    private static final int NOT = 268;
+    private static final int WORD = 269;
+    private static final int OLD = 270;
+    private static final int DAY = 271;
+    private static final int WEATHER = 272;
 
     private final Tape tape = new Tape();
     private int fault = NONE;
@@ -504,41 +511,49 @@ public final class TeaNight {
 
         void oneMinute() {
             minute++;
+            int ending = NONE;
             if (out > 0) {
                 out--;
             } else {
-                runMachine();
+                ending = runMachine();
             }
-            runClerks();
+            if (ending != NONE) {
+                finish(ending, true);
+            }
+            int doneByHand = runClerks();
+            if (doneByHand != NONE) {
+                finish(doneByHand, false);
+            }
         }
 
-        private void runMachine() {
+        /** The job that ends in this minute. */
+        private int runMachine() {
             if (running == NONE) {
                 running = jobs.nextForMachine();
                 if (running == NONE) {
-                    return;
+                    return NONE;
                 }
                 jobs.at(running).begin();
             }
             Job row = jobs.at(running);
             row.left--;
-            if (row.left <= 0) {
-                int ending = running;
-                running = NONE;
-                finish(ending, true);
+            if (row.left > 0) {
+                return NONE;
             }
+            int ending = running;
+            running = NONE;
+            return ending;
         }
 
-        private void runClerks() {
+        /** The job of which the last hand minute is done in this minute. */
+        private int runClerks() {
             int job = jobs.nextForClerks();
             if (job == NONE) {
-                return;
+                return NONE;
             }
             Job row = jobs.at(job);
             row.handDone++;
-            if (row.handDone >= row.hand) {
-                finish(job, false);
-            }
+            return row.handDone >= row.hand ? job : NONE;
         }
 
         private void finish(int job, boolean machine) {
@@ -762,23 +777,21 @@ public final class TeaNight {
 
     /** The tape: reads the text on it, thing by thing, and tells where it is wrong. */
     private static final class Tape {
-        // what is at hand, when it is not a sign: a sign is its byte
-        private static final int END = -1;
-        private static final int NUMBER = -2;
-        private static final int LETTERS = -3;
-        private static final int TOO_LONG = -4;
-
         private final int[] bytes = new int[TAPE];
-        private final int[] code = new int[CODE];
         int length;
-        private int until;
-        private int begin;
-        private int next;
-        private int kind;
-        private int number;
+        // the things of the text that is read, the END too: their kinds, where they begin, and the numbers
+        private final int[] kinds = new int[TAPE + 1];
+        private final int[] begins = new int[TAPE + 1];
+        private final int[] numbers = new int[TAPE + 1];
+        private int things;
+        private int at;
         private int taken;
+        private final int[] code = new int[CODE];
         private int size;
-        private int lines;
+        // of a condition: the not, ( , and, or that are not settled yet
+        private final int[] open = new int[OPEN];
+        private int height;
+        private int deep;
         private long named;
         private long reads;
         private long writes;
@@ -795,70 +808,56 @@ public final class TeaNight {
 
         /** The text of the first so many bytes, or null if it is wrong. */
         Text readText(int bytesOfIt) {
-            until = Math.max(0, Math.min(bytesOfIt, TAPE));
-            next = 0;
+            scan(Math.max(0, Math.min(bytesOfIt, TAPE)));
+            at = 0;
             size = 0;
-            lines = 0;
             reads = 0L;
             writes = 0L;
-            boolean fine = readLines();
-            wrong = fine ? NONE : begin;
+            int lines = 0;
+            boolean fine = kind() == END;
+            boolean going = !fine;
+            for (int i = 0; i < LINES && going; i++) {
+                long ahead = writes;
+                named = 0L;
+                going = readLine();
+                reads |= named & ~ahead;
+                if (going) {
+                    lines++;
+                    fine = kind() == END;
+                    going = takes(';');
+                }
+            }
+            wrong = fine ? NONE : begin();
             return fine ? new Text(Arrays.copyOf(code, Math.max(0, size)), lines, reads, writes) : null;
         }
 
-        private boolean readLines() {
-            advance();
-            if (kind == END) {
-                return true;
-            }
-            for (int i = 0; i < LINES; i++) {
-                if (!readLine()) {
-                    return false;
-                }
-                lines++;
-                if (kind == END) {
-                    return true;
-                }
-                if (!takeSign(';')) {
-                    return false;
-                }
-            }
-            return false;
-        }
-
         private boolean readLine() {
-            long ahead = writes;
-            named = 0L;
-            boolean fine = readStatement();
-            reads |= named & ~ahead;
-            return fine;
-        }
-
-        private boolean readStatement() {
-            if (takeWord("repeat")) {
+            if (takes(REPEAT)) {
                 if (!takeNumber(1, 9)) {
                     return false;
                 }
                 int repeats = taken;
-                return takeWord("set") && readSet(repeats);
+                return takes(SET) && readSet(repeats);
             }
-            if (takeWord("set")) {
+            if (takes(SET)) {
                 return readSet(1);
             }
-            if (takeWord("sum")) {
+            if (takes(SUM)) {
                 return readTotal();
             }
-            if (takeWord("round")) {
+            if (takes(ROUND)) {
                 return readRound();
             }
-            if (takeWord("ask")) {
-                return readCheck(ASK);
+            int what = kind();
+            if (!takes(ASK) && !takes(STOP)) {
+                return false;
             }
-            return takeWord("stop") && readCheck(STOP);
+            emit(what);
+            return takes(IF) && readCondition();
         }
 
         private boolean readSet(int repeats) {
-            if (!takeTarget(SET) || !takeSign('=')) {
+            if (!takeTarget(SET) || !takes('=')) {
                 return false;
             }
             emit(repeats);
@@ -866,11 +865,11 @@ public final class TeaNight {
         }
 
         private boolean readTotal() {
-            if (!takeTarget(TOTAL) || !takeWord("from") || !takeNumber(0, WORDS - 1)) {
+            if (!takeTarget(SUM) || !takes(FROM) || !takeNumber(0, WORDS - 1)) {
                 return false;
             }
             int from = taken;
-            if (!takeWord("to") || !takeNumber(from, WORDS - 1)) {
+            if (!takes(TO) || !takeNumber(from, WORDS - 1)) {
                 return false;
             }
             emit(from);
@@ -886,79 +885,89 @@ public final class TeaNight {
                 return false;
             }
             named |= 1L << taken;
-            if (!takeWord("by") || !takeNumber(1, 9999)) {
+            if (!takes(BY) || !takeNumber(1, 9999)) {
                 return false;
             }
             emit(taken);
             return true;
         }
 
-        private boolean readCheck(int what) {
-            if (!takeWord("if")) {
-                return false;
+        /** Tests go to the code as they come; what joins them goes behind those that it joins. */
+        private boolean readCondition() {
+            height = 0;
+            deep = 0;
+            for (int i = 0; i < TAPE; i++) {
+                int what = kind();
+                if (what == NOT || what == '(') {
+                    if (deep >= DEEPEST) {
+                        return false;
+                    }
+                    at++;
+                    deep++;
+                    push(what);
+                } else if (!readCompared()) {
+                    return false;
+                } else {
+                    closeWhatEnds();
+                    int join = takes(AND) ? AND : takes(OR) ? OR : END;
+                    settle(join == AND ? AND : OR);
+                    if (join == END) {
+                        emit(END);
+                        return height == 0;
+                    }
+                    push(join);
+                }
             }
-            emit(what);
-            if (!readAny(0)) {
-                return false;
-            }
-            emit(OVER);
-            return true;
+            return false;
         }
 
-        private boolean readAny(int deep) {
-            if (!readAll(deep)) {
-                return false;
+        /** Behind a test: the not ahead of it, and each ( that is closed there, are done. */
+        private void closeWhatEnds() {
+            dropNots();
+            for (int i = 0; i < DEEPEST && deep > 0 && takes(')'); i++) {
+                settle(OR);
+                height = Math.max(0, height - 1);
+                deep--;
+                dropNots();
             }
-            for (int i = 0; i < TAPE && takeWord("or"); i++) {
-                if (!readAll(deep)) {
-                    return false;
-                }
-                emit(OR);
-            }
-            return true;
         }
 
-        private boolean readAll(int deep) {
-            if (!readOne(deep)) {
-                return false;
+        private void dropNots() {
+            while (height > 0 && height <= OPEN && open[height - 1] == NOT) {
+                emit(NOT);
+                height--;
+                deep--;
             }
-            for (int i = 0; i < TAPE && takeWord("and"); i++) {
-                if (!readOne(deep)) {
-                    return false;
-                }
+        }
+
+        /** An and that is open binds ahead of all that comes; an or only ahead of another one, and of an end. */
+        private void settle(int binding) {
+            if (height > 0 && height <= OPEN && open[height - 1] == AND) {
                 emit(AND);
+                height--;
             }
-            return true;
+            if (binding == OR && height > 0 && height <= OPEN && open[height - 1] == OR) {
+                emit(OR);
+                height--;
+            }
         }
 
-        private boolean readOne(int deep) {
-            boolean deeper = isWord("not") || kind == '(';
-            if (!deeper) {
-                return readCompared();
+        private void push(int what) {
+            if (height >= 0 && height < OPEN) {
+                open[height] = what;
+                height++;
             }
-            if (deep >= DEEPEST) {
-                return false;
-            }
-            if (takeSign('(')) {
-                return readAny(deep + 1) && takeSign(')');
-            }
-            advance();
-            if (!readOne(deep + 1)) {
-                return false;
-            }
-            emit(NOT);
-            return true;
         }
 
         private boolean readCompared() {
             int head = size;
-            emit(LESS);
+            emit('<');
             if (!readSum()) {
                 return false;
             }
-            if (takeSign('>')) {
-                amend(head, MORE);
-            } else if (!takeSign('<')) {
+            if (takes('>')) {
+                amend(head, '>');
+            } else if (!takes('<')) {
                 return false;
             }
             return readSum();
@@ -973,9 +982,9 @@ public final class TeaNight {
                     return false;
                 }
                 amend(head, parts);
-                if (takeSign('+')) {
+                if (takes('+')) {
                     sign = 1;
-                } else if (takeSign('-')) {
+                } else if (takes('-')) {
                     sign = -1;
                 } else {
                     return true;
@@ -985,34 +994,31 @@ public final class TeaNight {
         }
 
         private boolean readPart(int sign) {
-            if (!takeNumber(0, MOST_NUMBER)) {
-                return readNamed(sign);
-            }
-            int first = taken;
-            if (!takeSign('*')) {
-                return emitPart(sign, PLAIN, first);
-            }
+            int times = sign;
             if (takeNumber(0, MOST_NUMBER)) {
-                return emitPart(sign * first, PLAIN, taken);
-            }
-            return readNamed(sign * first);
-        }
-
-        private boolean readNamed(int times) {
-            if (takeWord("word")) {
-                if (!takeNumber(0, WORDS - 1)) {
-                    return false;
+                int first = taken;
+                if (!takes('*')) {
+                    return emitPart(sign, NUMBER, first);
                 }
+                times = sign * first;
+                if (takeNumber(0, MOST_NUMBER)) {
+                    return emitPart(times, NUMBER, taken);
+                }
+            }
+            if (takes(DAY)) {
+                return emitPart(times, DAY, 0);
+            }
+            if (takes(WEATHER)) {
+                return emitPart(times, WEATHER, 0);
+            }
+            int what = takes(WORD) ? WORD : takes(OLD) ? OLD : END;
+            if (what == END || !takeNumber(0, WORDS - 1)) {
+                return false;
+            }
+            if (what == WORD) {
                 named |= 1L << taken;
-                return emitPart(times, OF_WORD, taken);
             }
-            if (takeWord("old")) {
-                return takeNumber(0, WORDS - 1) && emitPart(times, OF_OLD, taken);
-            }
-            if (takeWord("day")) {
-                return emitPart(times, OF_DAY, 0);
-            }
-            return takeWord("weather") && emitPart(times, OF_WEATHER, 0);
+            return emitPart(times, what, taken);
         }
 
         private boolean takeTarget(int what) {
@@ -1025,77 +1031,102 @@ public final class TeaNight {
             return true;
         }
 
+        private int kind() {
+            return at >= 0 && at < things && at <= TAPE ? kinds[at] : END;
+        }
+
+        private int begin() {
+            return at >= 0 && at < things && at <= TAPE ? begins[at] : NONE;
+        }
+
+        private boolean takes(int kind) {
+            if (at < 0 || at >= things || at > TAPE || kinds[at] != kind) {
+                return false;
+            }
+            at++;
+            return true;
+        }
+
         private boolean takeNumber(int least, int most) {
-            if (kind != NUMBER || number < least || number > most) {
+            if (at < 0 || at >= things || at > TAPE || kinds[at] != NUMBER
+                    || numbers[at] < least || numbers[at] > most) {
                 return false;
             }
-            taken = number;
-            advance();
+            taken = numbers[at];
+            at++;
             return true;
         }
 
-        private boolean takeSign(char sign) {
-            if (kind != sign) {
-                return false;
-            }
-            advance();
-            return true;
-        }
-
-        private boolean takeWord(String word) {
-            if (!isWord(word)) {
-                return false;
-            }
-            advance();
-            return true;
-        }
-
-        private boolean isWord(String word) {
-            if (kind != LETTERS || next - begin != word.length()) {
-                return false;
-            }
-            for (int i = 0; i < word.length(); i++) {
-                if (byteAt(begin + i) != word.charAt(i)) {
-                    return false;
+        private void scan(int until) {
+            things = 0;
+            int i = 0;
+            while (i < until) {
+                int end = endOfThing(i, until);
+                if (byteAt(i) != ' ') {
+                    addThing(kindOf(i, end), i, end);
                 }
+                i = Math.max(i + 1, end);
             }
-            return true;
+            addThing(END, until, until);
         }
 
-        private void advance() {
-            begin = next;
-            while (begin < until && byteAt(begin) == ' ') {
-                begin++;
-            }
-            next = begin;
-            if (begin >= until) {
-                kind = END;
-            } else if (isDigit(byteAt(begin))) {
-                scanNumber();
+        private int endOfThing(int begin, int until) {
+            int end = begin + 1;
+            if (isDigit(byteAt(begin))) {
+                while (end < until && isDigit(byteAt(end))) {
+                    end++;
+                }
             } else if (isLetter(byteAt(begin))) {
-                kind = LETTERS;
-                while (next < until && isLetter(byteAt(next))) {
-                    next++;
+                while (end < until && isLetter(byteAt(end))) {
+                    end++;
                 }
-            } else {
-                kind = byteAt(begin);
-                next = begin + 1;
             }
+            return end;
         }
 
-        private void scanNumber() {
-            number = 0;
-            while (next < until && isDigit(byteAt(next))) {
-                if (next - begin < DIGITS) {
-                    number = 10 * number + byteAt(next) - '0';
-                }
-                next++;
+        private int kindOf(int begin, int end) {
+            int sign = byteAt(begin);
+            if (isDigit(sign)) {
+                return end - begin > DIGITS ? NO_THING : NUMBER;
             }
-            kind = next - begin > DIGITS ? TOO_LONG : NUMBER;
+            return isLetter(sign) ? kindOfWord(begin, end) : sign;
+        }
+
+        /** Goes along all words that are known; same tells how far the one at hand is the same. */
+        private int kindOfWord(int begin, int end) {
+            int kind = REPEAT;
+            int same = begin;
+            for (int i = 0; i < KNOWN.length(); i++) {
+                char sign = KNOWN.charAt(i);
+                if (sign == ' ') {
+                    if (same == end) {
+                        return kind;
+                    }
+                    kind++;
+                    same = begin;
+                } else {
+                    same = same != NONE && same < end && byteAt(same) == sign ? same + 1 : NONE;
+                }
+            }
+            return NO_THING;
+        }
+
+        private void addThing(int kind, int begin, int end) {
+            if (things < 0 || things > TAPE) {
+                return;
+            }
+            int number = 0;
+            for (int i = begin; kind == NUMBER && i < end; i++) {
+                number = 10 * number + byteAt(i) - '0';
+            }
+            kinds[things] = kind;
+            begins[things] = begin;
+            numbers[things] = number;
+            things++;
         }
 
         private int byteAt(int i) {
-            return i >= 0 && i < until && i < TAPE ? bytes[i] : END;
+            return i >= 0 && i < TAPE ? bytes[i] : END;
         }
 
         private static boolean isDigit(int sign) {
@@ -1107,9 +1138,13 @@ public final class TeaNight {
         }
 
         private boolean emitPart(int times, int what, int of) {
-            emit(times);
-            emit(what);
-            emit(of);
+            if (size < 0 || size + 3 > code.length) {
+                return false;
+            }
+            code[size] = times;
+            code[size + 1] = what;
+            code[size + 2] = of;
+            size += 3;
             return true;
         }
 
@@ -1120,9 +1155,9 @@ public final class TeaNight {
             }
         }
 
-        private void amend(int at, int n) {
-            if (at >= 0 && at < code.length) {
-                code[at] = n;
+        private void amend(int place, int n) {
+            if (place >= 0 && place < code.length) {
+                code[place] = n;
             }
         }
     }
@@ -1146,12 +1181,17 @@ public final class TeaNight {
             at = 0;
             asked = 0;
             int lines = text == null ? 0 : text.lines;
-            for (int line = 0; line < lines; line++) {
-                if (!doLine()) {
-                    return false;
+            boolean fine = true;
+            for (int line = 0; line < lines && fine; line++) {
+                switch (nextCode()) {
+                    case SET: fine = doSet(nextCode(), nextCode()); break;
+                    case SUM: fine = doTotal(nextCode(), nextCode(), nextCode()); break;
+                    case ROUND: fine = doRound(nextCode(), nextCode()); break;
+                    case ASK: asked += holds() ? 1 : 0; break;
+                    default: fine = !holds(); break;
                 }
             }
-            return true;
+            return fine;
         }
 
         boolean doShortly(long words, int more) {
@@ -1163,36 +1203,19 @@ public final class TeaNight {
             return true;
         }
 
-        private boolean doLine() {
-            switch (nextCode()) {
-                case SET: return doSet(nextCode(), nextCode());
-                case TOTAL: return doTotal(nextCode(), nextCode(), nextCode());
-                case ROUND: return doRound(nextCode(), nextCode());
-                case ASK:
-                    if (holds()) {
-                        asked++;
-                    }
-                    return true;
-                case STOP: return !holds();
-                default: return false;
-            }
-        }
-
         private boolean doSet(int word, int repeats) {
             int begin = at;
             long value = 0L;
-            for (int i = 0; i < repeats; i++) {
+            boolean fine = true;
+            for (int i = 0; i < repeats && fine; i++) {
                 at = begin;
                 value = sum();
-                if (outOfBounds(value)) {
-                    carried = NONE;
-                    return false;
-                }
+                fine = !outOfBounds(value);
                 carried = word;
                 carry = value;
             }
             carried = NONE;
-            return put(word, value);
+            return fine && put(word, value);
         }
 
         private boolean doTotal(int word, int from, int to) {
@@ -1225,8 +1248,8 @@ public final class TeaNight {
             long stack = 0L;
             for (int i = 0; i < CODE; i++) {
                 switch (nextCode()) {
-                    case LESS: stack = stack << 1 | (sum() < sum() ? 1L : 0L); break;
-                    case MORE: stack = stack << 1 | (sum() > sum() ? 1L : 0L); break;
+                    case '<': stack = stack << 1 | (sum() < sum() ? 1L : 0L); break;
+                    case '>': stack = stack << 1 | (sum() > sum() ? 1L : 0L); break;
                     case NOT: stack ^= 1L; break;
                     case AND: stack = (stack >>> 1) & (stack | ~1L); break;
                     case OR: stack = (stack >>> 1) | (stack & 1L); break;
@@ -1249,11 +1272,11 @@ public final class TeaNight {
 
         private long atom(int what, int of) {
             switch (what) {
-                case PLAIN: return of;
-                case OF_WORD: return of == carried ? carry : store.wordAt(of);
-                case OF_OLD: return store.oldAt(of);
-                case OF_DAY: return day;
-                case OF_WEATHER: return weather;
+                case NUMBER: return of;
+                case WORD: return of == carried ? carry : store.wordAt(of);
+                case OLD: return store.oldAt(of);
+                case DAY: return day;
+                case WEATHER: return weather;
                 default: return 0L;
             }
         }
