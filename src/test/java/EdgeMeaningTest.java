@@ -9,6 +9,7 @@ public final class EdgeMeaningTest {
         bounds();
         staysAhead();
         greatSums();
+        parts();
         conditions();
         asked();
         stops();
@@ -155,6 +156,17 @@ public final class EdgeMeaningTest {
         }
     }
 
+    // "SUM: PART { + PART | - PART }": each part by the sign ahead of it alone
+    private static void parts() {
+        word("set 16=1-2+3", 16, 2);
+        word("set 16=1+2-3", 16, 0);
+        word("set 16=1-2-3", 16, -4);
+        word("set 16=10-2*3+4*5-6", 16, 18);
+        word("set 16=0-3*word 0+2*word 0", 16, -7, 0, 7);
+        word("set 16=0-1*word 0", 16, 7, 0, -7);
+        word("set 16=5-0*word 0", 16, 5, 0, TOP);
+    }
+
     // "SUM < SUM | SUM > SUM": neither holds of equals; ALL binds ahead of or
     private static void conditions() {
         Object[][] all = {{"1<2", 1}, {"2<2", 0}, {"2<1", 0}, {"2>1", 1}, {"2>2", 0}, {"1>2", 0}, {"not 2<2", 1}, {"not 2>2", 1},
@@ -166,6 +178,30 @@ public final class EdgeMeaningTest {
             TeaNight x = done("ask if " + c[0]);
             Due.same("ask if " + c[0], x.look(0, 8), (Integer) c[1]);
         }
+        // each way that three tests may come out, told by < and by >
+        for (int i = 0; i < 16; i++) {
+            boolean a = (i & 1) != 0;
+            boolean b = (i & 2) != 0;
+            boolean c = (i & 4) != 0;
+            String[] t = new String[3];
+            for (int j = 0; j < 3; j++) {
+                boolean holds = (i >> j & 1) != 0;
+                t[j] = i < 8 ? holds ? "1<2" : "2<2" : holds ? "2>1" : "2>2";
+            }
+            holds(t[0] + " and " + t[1] + " and " + t[2], a && b && c);
+            holds(t[0] + " or " + t[1] + " or " + t[2], a || b || c);
+            holds(t[0] + " and " + t[1] + " or " + t[2], a && b || c);
+            holds(t[0] + " or " + t[1] + " and " + t[2], a || b && c);
+            holds("(" + t[0] + " or " + t[1] + ")and " + t[2], (a || b) && c);
+            holds(t[0] + " and(" + t[1] + " or " + t[2] + ")", a && (b || c));
+            holds("not " + t[0] + " and " + t[1] + " or not " + t[2], !a && b || !c);
+            holds("not(" + t[0] + " or not " + t[1] + ")or " + t[2], !(a || !b) || c);
+        }
+    }
+
+    private static void holds(String c, boolean want) {
+        Due.same("ask if " + c, done("ask if " + c).look(0, 8), want ? 1 : 0);
+        Due.same("stop if " + c, done("stop if " + c).look(0, 0), want ? 6 : 2);
     }
 
     // "ask: if C it is ASKED once more": each of its lines counts, and what failed behind it does not undo it

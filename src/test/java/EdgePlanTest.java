@@ -63,6 +63,16 @@ public final class EdgePlanTest {
         plan(y, 179, 0, 6, DROPPED, RUN, RUN);
         plan(y, 119, 480, 6, DROPPED, RUN, HAND);
         Due.same("nothing waits", new TeaNight().plan(1000, 1000), 0);
+        TeaNight z = jobs("1 1 1", "1 1 1", "1 1 1", "1 1 1", "1 1 1", "1 1 1", "1 1 1");
+        plan(z, 0, 0, 0, DROPPED, DROPPED, DROPPED, DROPPED, DROPPED, DROPPED, DROPPED);
+        plan(z, 1, 0, 1, RUN, DROPPED, DROPPED, DROPPED, DROPPED, DROPPED, DROPPED);
+        plan(z, 0, 1, 1, HAND, DROPPED, DROPPED, DROPPED, DROPPED, DROPPED, DROPPED);
+        plan(z, 3, 3, 6, RUN, RUN, RUN, HAND, HAND, HAND, DROPPED);
+        plan(z, 4, 3, 7, RUN, RUN, RUN, RUN, HAND, HAND, HAND);
+        plan(z, 3, 4, 7, RUN, RUN, RUN, HAND, HAND, HAND, HAND);
+        plan(z, 7, 7, 7, HAND, HAND, HAND, HAND, HAND, HAND, HAND);
+        plan(jobs("5 0 5", "5 0 5", "5 0 5", "5 0 5", "5 0 5", "5 0 5", "5 0 5"), 35, 35, 0, DROPPED, DROPPED, DROPPED, DROPPED, DROPPED, DROPPED,
+                DROPPED);
     }
 
     // "PLANS (nothing changes by them)"
@@ -147,6 +157,20 @@ public final class EdgePlanTest {
         plan(x, 6, 3, 900, SHORT, RUN, HAND);
         plan(x, 5, 4, 1000, HAND, RUN, HAND);
         plan(x, 15, 0, 1000, RUN, RUN, RUN);
+        // on one of a lesser number
+        TeaNight w = new TeaNight();
+        Due.job(w, "set 16=1", 5, 0, 0, 0, false);
+        Due.job(w, "set 17=1", 5, 0, 0, 0, false);
+        Due.job(w, "set 18=word 16", 1, 10, 0, 0, false);
+        Due.job(w, "set 19=word 17", 1, 20, 1, 0, false);
+        plan(w, 4, 1, 0, DROPPED, DROPPED, DROPPED, DROPPED);
+        plan(w, 5, 0, 0, DROPPED, DROPPED, DROPPED, DROPPED);
+        plan(w, 5, 1, 20, DROPPED, RUN, DROPPED, HAND);
+        plan(w, 6, 0, 20, DROPPED, RUN, DROPPED, RUN);
+        plan(w, 6, 1, 20, DROPPED, RUN, DROPPED, HAND);
+        plan(w, 11, 0, 20, DROPPED, RUN, DROPPED, RUN);
+        plan(w, 11, 1, 30, RUN, RUN, RUN, HAND);
+        plan(w, 12, 0, 30, RUN, RUN, RUN, RUN);
         // what does not wait is none of these
         x.drop(2);
         plan(x, 10, 0, 1000, RUN, RUN, NONE);
@@ -179,6 +203,12 @@ public final class EdgePlanTest {
         TeaNight y = jobs("3 1000 0", "3 1000 0", "3 1000 0", "3 1000 0", "3 1000 0", "3 1000 0", "3 1000 0");
         plan(y, 21, 0, 7000, RUN, RUN, RUN, RUN, RUN, RUN, RUN);
         plan(y, 20, 0, 6000, RUN, RUN, RUN, RUN, RUN, RUN, DROPPED);
+        // short may be worth more than whole, and less
+        plan(jobs("10 100 0", "10 0 0 1 1000"), 10, 0, 1000, DROPPED, SHORT);
+        plan(jobs("10 100 0", "10 1000 0 1 0"), 10, 0, 1000, DROPPED, RUN);
+        plan(jobs("10 100 0", "10 0 9 1 1000"), 10, 9, 1000, DROPPED, SHORT);
+        plan(jobs("10 100 0", "10 1000 9 1 999"), 10, 9, 1100, RUN, HAND);
+        plan(jobs("1 1 0", "1 0 0 1 0", "10 0 0 10 1000"), 10, 0, 1000, DROPPED, DROPPED, SHORT);
     }
 
     // "of several the fewest MINUTES of the machine"
@@ -375,6 +405,7 @@ public final class EdgePlanTest {
         x.tell(20, 9);
         Due.same("a row that was torn ahead of going back", x.check(), NONE);
         Due.same("as", x.as(20, 0), 9);
+        eachGoesBack();
         // to an image of a new night
         TeaNight y = new TeaNight();
         y.image();
@@ -387,6 +418,103 @@ public final class EdgePlanTest {
         Due.same("no word", y.word(16), 0);
         Due.same("job 0 again", Due.job(y, "set 17=1", 1), 0);
         Due.same("its words", y.words(0, true), 1L << 17);
+    }
+
+    // "of all": what shows only in what happens then
+    private static void eachGoesBack() {
+        // a test behind the image, and the minute at which a lamp fails
+        TeaNight x = new TeaNight();
+        Due.job(x, "set 17=0", 1);
+        x.minutes(1);
+        x.lamp(1, 2, 4);
+        x.image();
+        x.minutes(1);
+        Due.same("caught", x.test(1, 1), 2);
+        Due.same("doubted", x.doubted(), 1L << 17);
+        x.lamp(1, 100, 8);
+        Due.yes("back", x.back());
+        Due.same("not tested, so not doubted", x.doubted(), 0);
+        Due.same("caught in all", x.count(12), 0);
+        x.again(0);
+        x.minutes(1);
+        Due.same("at its minute, with its mask", x.word(17), 4);
+        Due.yes("back", x.back());
+        x.minutes(1);
+        Due.same("the first test", x.test(1, 1), 2);
+        Due.same("doubted", x.doubted(), 1L << 17);
+        Due.yes("back", x.back());
+        Due.same("lamp 1 would fail later", x.test(1, 1), 0);
+        x.minutes(1);
+        Due.same("caught", x.test(1, 1), 2);
+        Due.same("good at its first test", x.doubted(), 0);
+        // torn rows
+        TeaNight y = new TeaNight();
+        y.tell(20, 6);
+        y.tell(21, 6);
+        y.tear(0, 1);
+        y.image();
+        y.tear(1, 8);
+        y.tear(0, 1);
+        Due.yes("back", y.back());
+        Due.same("torn ahead of the image", y.as(20, 0), 7);
+        Due.same("torn behind it", y.as(21, 0), 6);
+        Due.same("check", y.check(), 0);
+        runsGoBack();
+        paidGoesBack();
+    }
+
+    private static void runsGoBack() {
+        TeaNight x = new TeaNight();
+        Due.job(x, "set 16=1;stop if word 1>0", 20, 0, 5, 4, false);
+        Due.job(x, "set 17=1", 1, 0, 3, 0, false);
+        x.shorter(0, 10, 0, 2);
+        x.way(0, 1);
+        x.way(1, 2);
+        x.minutes(2);
+        x.minutes(5);
+        x.again(1);
+        x.minutes(0);
+        x.image();
+        x.minutes(3);
+        Due.same("ended short", x.look(0, 0), 3);
+        x.tell(1, 1);
+        x.again(0);
+        x.way(0, 0);
+        x.shorter(0, 0, 0, 0);
+        x.minutes(20);
+        Due.same("failed", x.count(8), 1);
+        x.out(60);
+        Due.yes("back", x.back());
+        Due.same("failed", x.count(8), 0);
+        Due.same("failures of the job", x.look(0, 7), 0);
+        Due.same("not out", x.count(3), 0);
+        Due.same("3 of 10 are left", x.look(0, 1), 3);
+        x.out(1);
+        Due.same("kept at 4 of 10", x.look(0, 1), 6);
+        Due.same("no clerk has begun it again", x.look(1, 2), 0);
+        x.minutes(7);
+        Due.same("ended short", x.look(0, 0), 3);
+        Due.same("with so much", x.word(16), 2);
+        Due.same("done by hand", x.look(1, 5), 10);
+        x.again(0);
+        Due.yes("its short way is back", x.way(0, 1));
+    }
+
+    private static void paidGoesBack() {
+        TeaNight x = new TeaNight();
+        Due.job(x, "set 16=1", 1, 0, 0, 0, true);
+        x.worker(10, 3);
+        x.minutes(1);
+        x.image();
+        Due.same("paid", x.wages(), 30);
+        Due.yes("back", x.back());
+        Due.same("not paid", x.count(10), 0);
+        Due.yes("so they may be altered", x.alter(0, 11, 2));
+        Due.same("and paid", x.wages(), 33);
+        x.image();
+        Due.yes("back to when they were paid", x.back());
+        Due.same("once", x.wages(), NONE);
+        Due.same("hours", x.pay(0, 1), 11);
     }
 
     // "(but for the TAPE, fault() and THE IMAGE itself)"

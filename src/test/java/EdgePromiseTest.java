@@ -583,6 +583,23 @@ public final class EdgePromiseTest {
         other.image();
         spend(other);
         Due.yes("back", other.back());
+        // each call alone
+        Supplier<TeaNight> kept = () -> {
+            TeaNight x = Edge.busy();
+            x.image();
+            return x;
+        };
+        Edge.Ask[] calls = {x -> Edge.day(x, 6, 9), x -> Edge.old(x, 20, 5), x -> Edge.old(x, 36, 5), x -> x.ring(1, 0, 55), x -> x.tell(16, 5),
+            x -> Edge.shorter(x, 0, 7, 7, 7), x -> Edge.shorter(x, 3, 0, 7, 7), x -> x.way(3, 1), x -> x.drop(3), x -> x.again(0), x -> x.out(9),
+            x -> x.minutes(1), x -> x.minutes(120), x -> x.lamp(2, 6, 5), x -> x.test(0, 15), x -> x.wanted(0, 0, 2, 9, 999), x -> Edge.good(x, 0, 9, 8, 7, 6),
+            x -> Edge.fleet(x, 9, 8, 7, 6, 5), x -> x.worker(9, 9), x -> x.alter(0, 9, 9), x -> x.tear(0, 3), x -> x.tear(6, 3)};
+        for (int i = 0; i < calls.length; i++) {
+            Edge.Ask call = calls[i];
+            Edge.nothing("back behind call " + i, true, kept, x -> {
+                call.on(x);
+                return x.back();
+            });
+        }
         // the tape and the fault are not of the image
         one.end(0);
         other.end(0);

@@ -140,6 +140,16 @@ public final class EdgeShopTest {
         for (int what = 0; what < 4; what++) {
             Due.same("without any, what " + what, x.foretell(2, 1, what), none[what]);
         }
+        TeaNight y = new TeaNight();
+        y.day(3, 9);
+        wants(y, 8, 100, 6, 50);
+        for (int i = 0; i < 3; i++) {
+            Due.same("asked as often as may be", y.foretell(2, 1, 0), 79);
+            Due.same("none of another", y.foretell(1, 1, 0), NONE);
+            Due.same("least", y.foretell(2, 1, 1), 50);
+            Due.same("none of another", y.foretell(1, 1, 2), NONE);
+            Due.same("greatest", y.foretell(2, 1, 2), 100);
+        }
         int[][] told = {{0, 7}, {0, 3}, {0, 9}, {0, 5}, {0, 6}, {0, 99999}, {0, 0}, {0, 1}};
         int[][] want = {{7, 7, 1}, {3, 7, 2}, {3, 9, 3}, {3, 9, 4}, {3, 9, 4}, {5, 99999, 4}, {0, 99999, 4}, {0, 99999, 4}};
         for (int i = 0; i < told.length; i++) {
@@ -291,6 +301,14 @@ public final class EdgeShopTest {
         over(99999, new int[] {0, 99999, 99999}, 99999, 99999, 99999, 99999);
         over(0, new int[] {99999, 99999, 199998}, 99999, 99999, 99999, 99999);
         over(1, new int[] {99999, 99999, 199997}, 99999, 99999, 99999, 99999);
+        over(0, new int[] {101, 101, 101}, 70, 30, 60, 100);
+        over(0, new int[] {100000000, 100000000, 100000000}, 0, 0, 0, 0);
+        over(0, new int[] {100000000, 100000000, 100000000}, 99999, 99999, 99999, 99999);
+        over(0, new int[] {0, 0, 4 * 99999}, 99999, 99999, 99999, 99999);
+        over(1, new int[] {0, 0, 4 * 99999 - 1}, 99999, 99999, 99999, 99999);
+        over(0, new int[] {0, 4 * 99999, 0}, 99999, 99999, 99999, 99999);
+        over(0, new int[] {3 * 99999, 99998, 0}, 99998, 99999, 99999, 99999);
+        over(0, new int[] {3 * 99999, 0, 99998}, 99999, 99999, 99999, 99998);
         // what the others have free does not help
         over(5, new int[] {15, 2, 2}, 10, 10, 0, 0);
         TeaNight x = new TeaNight();

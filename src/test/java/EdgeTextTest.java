@@ -8,6 +8,7 @@ public final class EdgeTextTest {
         noLine();
         eachThingInItsPlace();
         moreMustCome();
+        oneThingLeftOut();
         whichWords();
         targets();
         fromAndTo();
@@ -18,6 +19,7 @@ public final class EdgeTextTest {
         wordsAndBlanks();
         wholeNumbers();
         firstWrongByte();
+        nothingIsLeftOfAWrongText();
         Due.finish();
     }
 
@@ -153,6 +155,60 @@ public final class EdgeTextTest {
         wrong(things + "~" + times(")", 400 - things.length()));
         right("ask if 1<" + times("1-", 195) + "1");
         wrong("ask if 1<" + times("1-", 195) + " ~");
+    }
+
+    // a thing that is left out: the next one cannot stand there
+    private static void oneThingLeftOut() {
+        wrong("~16=1");
+        wrong("set ~=1");
+        wrong("set 16 ~1");
+        wrong("set 16=~;set 17=1");
+        wrong("repeat ~set 16=1");
+        wrong("repeat 2 ~16=1");
+        wrong("repeat 2 set ~=1");
+        wrong("sum ~from 1 to 2");
+        wrong("sum 16 ~1 to 2");
+        wrong("sum 16 from ~to 2");
+        wrong("sum 16 from 1 ~2");
+        wrong("sum 16 from 1 to ~;");
+        wrong("round ~by 2");
+        wrong("round 16 ~2");
+        wrong("round 16 by ~;");
+        for (String head : new String[] {"ask", "stop"}) {
+            wrong(head + " ~1<2");
+            wrong(head + " ~not 1<2");
+            wrong(head + " if ~<2");
+            wrong(head + " if ~>2");
+            wrong(head + " if ~;");
+            wrong(head + " if 1 ~2");
+            wrong(head + " if 1~;");
+            wrong(head + " if 1<~;");
+            wrong(head + " if 1>~and 1<2");
+            wrong(head + " if 1<2 ~3<4");
+            wrong(head + " if ~and 1<2");
+            wrong(head + " if ~or 1<2");
+            wrong(head + " if 1<2 and ~;");
+            wrong(head + " if 1<2 or ~)");
+            wrong(head + " if not ~;");
+            wrong(head + " if (~<2)");
+            wrong(head + " if (1 ~2)");
+            wrong(head + " if (~)");
+            wrong(head + " if (1<2~;");
+            wrong(head + " if (1<2 ~(3<4)");
+            wrong(head + " if 1<2~)");
+        }
+        wrong("set 16=~*2");
+        wrong("set 16=2*~+1");
+        wrong("set 16=2 ~word 1");
+        wrong("set 16=word ~+1");
+        wrong("set 16=old ~*1");
+        wrong("set 16=~+1");
+        wrong("set 16=1+~;");
+        wrong("set 16=1-~+1");
+        wrong("set 16=1 ~day");
+        wrong("set 16=day ~weather");
+        wrong("set 16=1~set 17=1");
+        wrong("set 16=1 ~ask if 1<2");
     }
 
     // the ends of words: N behind word and old is 0 to 63
@@ -328,6 +384,17 @@ public final class EdgeTextTest {
         Due.same("each not of its own test alone", y.look(1, 8), 1);
         Due.same("not in the sixth", y.look(2, 8), 0);
         wrong("ask if " + times("2<1 or 1<2 and (", 6) + "2<1 or 1<2 and ~(1<2" + times(")", 7));
+        // or and and open in the sixth, too: all that can be open at once
+        for (int i = 0; i < 8; i++) {
+            String inner = ((i & 4) != 0 ? "1<2" : "2<1") + " or " + ((i & 2) != 0 ? "1<2" : "2<1") + " and " + ((i & 1) != 0 ? "1<2" : "2<1");
+            boolean holds = (i & 4) != 0 || (i & 3) == 3;
+            TeaNight z = new TeaNight();
+            Due.job(z, "ask if " + times("2<1 or 1<2 and (", 6) + inner + times(")", 6), 1);
+            Due.job(z, "ask if not(" + times("1<2 and not(", 2) + inner + ")))", 1);
+            z.minutes(2);
+            Due.same("in the sixth " + inner, z.look(0, 8), holds ? 1 : 0);
+            Due.same("in three not " + inner, z.look(1, 8), holds ? 0 : 1);
+        }
     }
 
     // "Words are as long as a to z go on; between all there may be blanks (32), also ahead and behind."
@@ -444,5 +511,28 @@ public final class EdgeTextTest {
         Due.same("its fault", x.fault(), NONE);
         Due.same("the words that it writes", x.words(1, true), 1L << 16);
         Due.yes("a word in its bounds", x.tell(16, TOP) == 1);
+    }
+
+    /** Behind a text that stops within ( and not, and, or, the next one is read as the first. */
+    private static void nothingIsLeftOfAWrongText() {
+        String[] stopping = {"ask if ((((((1<2", "ask if not not not not not not", "ask if not(not(not(1<2 or", "ask if (1<2 and (1<2 or (1<2 and",
+            "set 16=1;set 17=word 3;ask if (", "repeat 9 set 63=word 62-"};
+        for (String text : stopping) {
+            TeaNight x = new TeaNight();
+            Due.feed(x, text);
+            Edge.due("a text that stops", x, Due.ARGUMENT, y -> y.job(1, 1, 1, 1, false));
+            Due.same("its fault", x.fault(), text.length());
+            String next = "ask if not(not(not(1<2 and 3<4)))or 2<1;ask if ((((((1<2))))));set 20=word 21";
+            Due.same("the next text", Due.job(x, next, 1), 0);
+            Due.same("its lines", x.look(0, 4), 3);
+            Due.same("what it reads", x.words(0, false), 1L << 21);
+            Due.same("what it writes", x.words(0, true), 1L << 20);
+            x.minutes(1);
+            Due.same("asked", x.look(0, 8), 1);
+            Due.same("written", x.count(2), 1);
+            Due.feed(x, "ask if (((((((1<2");
+            Edge.due("seven deep", x, Due.ARGUMENT, y -> y.job(1, 1, 1, 1, false));
+            Due.same("its fault", x.fault(), 13);
+        }
     }
 }
