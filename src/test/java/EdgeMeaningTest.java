@@ -81,6 +81,14 @@ public final class EdgeMeaningTest {
         floods("sum 16 from 0 to 1", 0, TOP, 1, 1);
         floods("sum 16 from 0 to 1", 0, -TOP, 1, -1);
         floods("sum 16 from 0 to 5", 0, TOP, 1, TOP, 2, TOP, 3, TOP, 4, TOP, 5, TOP);
+        // four and five of them come back into bounds, if counted by 32 bits
+        floods("sum 16 from 0 to 3", 0, TOP, 1, TOP, 2, TOP, 3, TOP);
+        floods("sum 16 from 0 to 3", 0, -TOP, 1, -TOP, 2, -TOP, 3, -TOP);
+        floods("sum 16 from 0 to 4", 0, TOP, 1, TOP, 2, TOP, 3, TOP, 4, TOP);
+        floods("set 16=word 0+word 0+word 0+word 0", 0, TOP);
+        floods("set 16=4*word 0", 0, TOP);
+        floods("set 16=0-5*word 0", 0, TOP);
+        floods("repeat 3 set 16=4*word 16", 16, TOP);
         word("sum 16 from 0 to 4", 16, TOP, 0, TOP, 1, TOP, 2, TOP, 3, -TOP, 4, -TOP);
         floods("round 16 by 2", 16, TOP);
         floods("round 16 by 10", 16, TOP);
