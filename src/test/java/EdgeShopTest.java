@@ -207,8 +207,15 @@ public final class EdgeShopTest {
         Due.yes("not rung: 0", x.far(0, 0));
         x.tell(0, 10);
         Due.no("told", x.far(0, 0));
+        x.tell(0, -1);
+        Due.yes("told below 0", x.far(0, 0));
+        x.wanted(1, 0, 0, 0, 1);
+        Due.no("0 is not below half of 1", x.far(1, 0));
+        x.tell(4, -1);
+        Due.yes("a word below 0 is, as it is", x.far(1, 0));
         x.day(1, 0);
         x.tell(0, 99999);
+        x.tell(4, 99999);
         Due.no("without any of the day", x.far(0, 0));
         Due.no("without any of the shop", x.far(1, 0));
     }
